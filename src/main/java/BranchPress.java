@@ -35,11 +35,25 @@ public final class BranchPress {
     private static final int MOST_SHORT = 7;
     private static final int MOST_ABOVE_LOAD = 16;
 
-    private static final int ITEMS_IN_ALL = 2;
-    private static final int WORDS_IN_ALL = 3;
-    private static final int LONG_BRANCHES = 5;
-    private static final int ROUNDS = 6;
-    private static final int LAST_OF_MANY = 11;
+    private static final int TOO_DEEP = 1;
+    private static final int TOO_MUCH = 2;
+    private static final int NOT_SET = 3;
+    private static final int NAMED_TWICE = 4;
+    private static final int NO_VALUE = 5;
+    private static final int TOO_FAR = 6;
+
+    private static final int MANY_MAIN_LINES = 0;
+    private static final int MANY_LINES = 1;
+    private static final int MANY_ITEMS = 2;
+    private static final int MANY_WORDS = 3;
+    private static final int MANY_BRANCHES = 4;
+    private static final int MANY_LONG = 5;
+    private static final int MANY_ROUNDS = 6;
+    private static final int MANY_LOADS = 7;
+    private static final int MANY_POOL_WORDS = 8;
+    private static final int MANY_ALIGN_WORDS = 9;
+    private static final int MANY_CODE_WORDS = 10;
+    private static final int MANY_OTHER_WORDS = 11;
 
     private final Source source;
     private final Assembly now;
@@ -188,19 +202,19 @@ public final class BranchPress {
 
     /** Returns how many there are of what the document numbers 0 to 11. */
     public int many(int what) throws IllegalArgumentException {
-        if (what < 0 || what > LAST_OF_MANY) {
+        if (what < 0 || what > MANY_OTHER_WORDS) {
             throw new IllegalArgumentException("what is not 0 to 11");
         }
-        if (what == 0) {
+        if (what == MANY_MAIN_LINES) {
             return source.countOf(MAIN);
         }
-        if (what == 1) {
+        if (what == MANY_LINES) {
             return source.countOfAll();
         }
         if (now.faultNumber != NO_FAULT) {
             return NONE;
         }
-        return what == ROUNDS ? now.rounds : now.items.tally(what);
+        return what == MANY_ROUNDS ? now.rounds : now.items.tally(what);
     }
 
     /** Returns the mean SIZE of the ITEMS, not cut; 0 with a FAULT. */
@@ -209,7 +223,7 @@ public final class BranchPress {
         if (items == 0) {
             return 0;
         }
-        return (double) now.items.tally(WORDS_IN_ALL) / items;
+        return (double) now.items.tally(MANY_WORDS) / items;
     }
 
     // ---- what would be (nothing is changed)
@@ -271,13 +285,13 @@ public final class BranchPress {
         if (other.faultNumber != NO_FAULT) {
             return -1000 - other.faultNumber;
         }
-        return other.items.tally(LONG_BRANCHES) - now.items.tally(LONG_BRANCHES);
+        return other.items.tally(MANY_LONG) - now.items.tally(MANY_LONG);
     }
 
     /** Computes the checksum over all answers that the document lists for it. */
     public long digest() {
         long d = 7619;
-        for (int what = 0; what <= LAST_OF_MANY; what++) {
+        for (int what = 0; what <= MANY_OTHER_WORDS; what++) {
             d = d * 31 + many(what);
         }
         d = d * 31 + now.faultNumber;
@@ -296,7 +310,7 @@ public final class BranchPress {
                 d = d * 31 + ofItem(item, what);
             }
         }
-        int words = now.items.tally(WORDS_IN_ALL);
+        int words = now.items.tally(MANY_WORDS);
         for (int address = 0; address < words; address++) {
             d = d * 31 + word(address);
         }
@@ -611,23 +625,23 @@ public final class BranchPress {
         /** What many() of that number counts of this ITEM. */
         int shareOf(int what) {
             switch (what) {
-                case ITEMS_IN_ALL:
+                case MANY_ITEMS:
                     return 1;
-                case WORDS_IN_ALL:
+                case MANY_WORDS:
                     return size;
-                case 4:
+                case MANY_BRANCHES:
                     return isBranch() ? 1 : 0;
-                case LONG_BRANCHES:
+                case MANY_LONG:
                     return isLong ? 1 : 0;
-                case 7:
+                case MANY_LOADS:
                     return kind == LOAD ? 1 : 0;
-                case 8:
+                case MANY_POOL_WORDS:
                     return kind == POOL ? size : 0;
-                case 9:
+                case MANY_ALIGN_WORDS:
                     return kind == ALIGN ? size : 0;
-                case 10:
+                case MANY_CODE_WORDS:
                     return isFollowed ? size : 0;
-                case 11:
+                case MANY_OTHER_WORDS:
                     return !isFollowed && (isBranch() || kind == LOAD) ? size : 0;
                 default:
                     return 0;
@@ -953,7 +967,7 @@ public final class BranchPress {
             int n = line.isRelative ? line.n + arg : line.n;
             expanded++;
             if (expanded > MOST_EXPANDED || line.isItem() && items.count >= MOST_ITEMS) {
-                faultNumber = 2;
+                faultNumber = TOO_MUCH;
                 return true;
             }
             switch (line.kind) {
@@ -980,7 +994,7 @@ public final class BranchPress {
 
         private void expandCall(int row, int arg, int depth) {
             if (depth >= MOST_DEPTH) {
-                faultNumber = 1;
+                faultNumber = TOO_DEEP;
                 return;
             }
             expandRow(row, arg, depth + 1);
@@ -988,7 +1002,7 @@ public final class BranchPress {
 
         private boolean goesOn(Line line, int n) {
             if (!names.isNoneOrSet(line.x) || !names.isNoneOrSet(line.y)) {
-                faultNumber = 3;
+                faultNumber = NOT_SET;
                 return true;
             }
             return n + names.soFar(line.x) - names.soFar(line.y) > 0;
@@ -996,7 +1010,7 @@ public final class BranchPress {
 
         private void expandLabel(int name) {
             if (names.isLabel(name) || names.isSetSoFar(name)) {
-                faultNumber = 4;
+                faultNumber = NAMED_TWICE;
                 return;
             }
             names.noteLabel(name);
@@ -1004,9 +1018,9 @@ public final class BranchPress {
 
         private void expandSet(Line line, int n) {
             if (!names.isNoneOrSet(line.y)) {
-                faultNumber = 3;
+                faultNumber = NOT_SET;
             } else if (names.isLabel(line.x)) {
-                faultNumber = 4;
+                faultNumber = NAMED_TWICE;
             } else {
                 names.noteSet(line.x, names.soFar(line.y) + n);
             }
@@ -1046,7 +1060,7 @@ public final class BranchPress {
                 return;
             }
             items.append(lastPool, 0, 0, NONE, 0);
-            if (failsAtItem(5, items.linkValues())) {
+            if (failsAtItem(NO_VALUE, items.linkValues())) {
                 return;
             }
             items.linkPools();
@@ -1057,7 +1071,7 @@ public final class BranchPress {
                 items.place();
                 isLonger = items.lengthen();
             }
-            failsAtItem(6, items.firstFarLoad());
+            failsAtItem(TOO_FAR, items.firstFarLoad());
         }
 
         private void failAt(int number, int line) {
@@ -1076,7 +1090,7 @@ public final class BranchPress {
         }
 
         int wordsOrFault() {
-            return faultNumber == NO_FAULT ? items.tally(WORDS_IN_ALL) : -10 - faultNumber;
+            return faultNumber == NO_FAULT ? items.tally(MANY_WORDS) : -10 - faultNumber;
         }
 
         /** Finds which ITEMS are FOLLOWED. */
