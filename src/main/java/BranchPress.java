@@ -471,7 +471,7 @@ public final class BranchPress {
         }
 
         boolean hasLine(int row, int line) {
-            return line >= 0 && line < countOf(row);
+            return hasRow(row) && line >= 0 && line < rows[row].count;
         }
 
         boolean isFull(int row) {
@@ -935,15 +935,16 @@ public final class BranchPress {
             mainLine = 0;
         }
 
-        void startOver() {
+        void expandMain() {
             items.clear();
             names.clear();
             expanded = 0;
             faultNumber = NO_FAULT;
             mainLine = 0;
+            expandRow(MAIN, 0, 0);
         }
 
-        void expandRow(int row, int arg, int depth) {
+        private void expandRow(int row, int arg, int depth) {
             int openLeftOut = 0;
             int lines = source.countOf(row);
             for (int at = 0; at < lines && faultNumber == NO_FAULT; at++) {
@@ -1053,8 +1054,7 @@ public final class BranchPress {
             faultNumber = NO_FAULT;
             faultLine = NONE;
             rounds = 0;
-            expander.startOver();
-            expander.expandRow(MAIN, 0, 0);
+            expander.expandMain();
             if (expander.faultNumber != NO_FAULT) {
                 failAt(expander.faultNumber, expander.mainLine);
                 return;
