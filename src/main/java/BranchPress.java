@@ -935,13 +935,12 @@ public final class BranchPress {
             mainLine = 0;
         }
 
-        void expandMain() {
+        void startOver() {
             items.clear();
             names.clear();
             expanded = 0;
             faultNumber = NO_FAULT;
             mainLine = 0;
-            expandRow(MAIN, 0, 0);
         }
 
         private void expandRow(int row, int arg, int depth) {
@@ -1054,7 +1053,8 @@ public final class BranchPress {
             faultNumber = NO_FAULT;
             faultLine = NONE;
             rounds = 0;
-            expander.expandMain();
+            expander.startOver();
+            expander.expandRow(MAIN, 0, 0);
             if (expander.faultNumber != NO_FAULT) {
                 failAt(expander.faultNumber, expander.mainLine);
                 return;

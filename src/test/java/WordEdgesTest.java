@@ -254,6 +254,10 @@ public final class WordEdgesTest {
             none.refuses("isCode(" + at + ") without words", Told.INDEX, p -> p.isCode(at));
         }
         none.manyIs("without words", 3, 0).manyIs("without words", 2, 5);
+        Told cut = new Told().data(1).times(2).load(0).cut(0).wordsAre("behind a cut", 1, 5000, 0);
+        cut.refuses("itemOf(3) behind a cut", Told.INDEX, p -> p.itemOf(3));
+        cut.refuses("word(3) behind a cut", Told.INDEX, p -> p.word(3));
+        cut.refuses("isCode(3) behind a cut", Told.INDEX, p -> p.isCode(3));
     }
 
     /** Promise 10: "Returns the ITEM of the word there.", not one of no SIZE at its address */

@@ -14,6 +14,7 @@ public final class WouldBeEdgesTest {
         wronglyOfNone();
         wronglyOfOne();
         wronglyEachAlone();
+        wronglyAddressesAnew();
         wronglyAtTheEdges();
         longByPlaces();
         longByFewer();
@@ -247,6 +248,22 @@ public final class WouldBeEdgesTest {
         Told both = new Told().branchIf(-1, 99).jump(0, 0).times(2).data(0).times(3).align(8).data(0).times(3).label(0);
         both.itemsAre("LONG", 6, 1, 1, 1, 0, 0, 0, 0, 0, 0, 0, 0, 0).itemIs("the ALIGN", 6, 1, 10).itemIs("the ALIGN", 6, 2, 6);
         wrongly("of two that need one another", both, 0);
+    }
+
+    /** "and all addresses anew": its DISTANCE as it is laid out is not the one that it would have. */
+    private static void wronglyAddressesAnew() {
+        // LONG, the ALIGN is at 9, of 7 words; if the JUMP was SHORT, at 8, of none
+        Told t = new Told().jump(-1, 99).jump(0, 0).data(0).times(5).align(8).data(0).times(2).label(0);
+        Check.same("DISTANCE as it is laid out", t.press.distance(1), 15);
+        wrongly("of 15 that would be 7", t, 1);
+        Told first = new Told().jump(0, -20).jump(-1, 99).times(5).label(0);
+        Check.same("DISTANCE of ITEM 0 as it is laid out", first.press.distance(0), -9);
+        wrongly("of ITEM 0, -9 that would be -10", first, 0);
+        wrongly("of ITEM 0, -8", new Told().jump(0, -20).jump(-1, 99).times(6).label(0), 1);
+        Told back = new Told().jump(0, -21).jump(-1, 99).times(6).label(0);
+        Check.same("DISTANCE of ITEM 0 as it is laid out", back.press.distance(0), -8);
+        wrongly("of ITEM 0, -8 that would be -9", back, 0);
+        wrongly("of an IF as ITEM 0", new Told().branchIf(0, -20).jump(-1, 99).times(6).label(0), 1);
     }
 
     /** -8 and 7 are counted, -9 and 8 are not. */
