@@ -422,7 +422,7 @@ public final class BranchPress {
         int count;
 
         Row(int most) {
-            lines = new Line[most];
+            lines = new Line[Math.max(0, most)];
             count = 0;
         }
 
